@@ -229,7 +229,7 @@ public final class CarriedOne {
             return STATE;
         }
         int more = fewestMoreTouches(b, n);
-        if (more < 0) {
+        if (more == NONE) {
             return NONE;
         }
         int first = Integer.lowestOneBit(more);
@@ -296,7 +296,7 @@ public final class CarriedOne {
         if (!isBook(b) || (by != 9 && by != 11)) {
             return BAD;
         }
-        return hiddenSlips(told.carries(b), by) + hiddenMisreadings(told.a[b], by);
+        return hiddenMisreadings(told.a[b], by);
     }
 
     public int why(int what) {
@@ -443,31 +443,31 @@ public final class CarriedOne {
         return ways;
     }
 
+    // A touch that is there already, or of no book, changes nothing: it is never among
+    // the fewest, so all may be tried.
     private int fewestMoreTouches(int goal, int days) {
         waysNow();
         if (lures(0, goal, days)) {
             return 0;
         }
-        int free = touchesAmong(told.size) & ~now.touches;
-        int one = firstSingleLure(free, goal, days);
-        return one >= 0 ? one : firstDoubleLure(free, goal, days);
+        int one = firstSingleLure(goal, days);
+        return one != NONE ? one : firstDoubleLure(goal, days);
     }
 
-    private int firstSingleLure(int free, int goal, int days) {
+    private int firstSingleLure(int goal, int days) {
         for (int i = 0; i < MOST_TOUCHES; i++) {
-            int more = 1 << i;
-            if ((more & ~free) == 0 && lures(more, goal, days)) {
-                return more;
+            if (lures(1 << i, goal, days)) {
+                return 1 << i;
             }
         }
         return NONE;
     }
 
-    private int firstDoubleLure(int free, int goal, int days) {
+    private int firstDoubleLure(int goal, int days) {
         for (int i = 0; i < MOST_TOUCHES; i++) {
             for (int j = i + 1; j < MOST_TOUCHES; j++) {
                 int more = 1 << i | 1 << j;
-                if ((more & ~free) == 0 && lures(more, goal, days)) {
+                if (lures(more, goal, days)) {
                     return more;
                 }
             }
@@ -486,7 +486,7 @@ public final class CarriedOne {
         }
         for (int size = 1; size < MOST_BOOKS; size++) {
             int least = leastCut(goal, size);
-            if (least > 0) {
+            if (least != NONE) {
                 return least;
             }
         }
@@ -530,17 +530,8 @@ public final class CarriedOne {
 
     // ---- of what is wrong
 
-    private static int hiddenSlips(int carries, int by) {
-        int hidden = divides(by, WORTH_OF_ONE) ? 1 : 0;
-        if ((carries & 1) != 0 && divides(by, -10)) {
-            hidden++;
-        }
-        if ((carries & 2) != 0 && divides(by, -100)) {
-            hidden++;
-        }
-        return hidden;
-    }
-
+    // A carry forgotten is 10 or 100 too few, THE ONE 10 too many: neither 9 nor 11 divides
+    // these, so both proofs always find them.
     private static int hiddenMisreadings(int a, int by) {
         int ones = a % 10;
         int tens = a / 10 % 10;
@@ -694,16 +685,6 @@ public final class CarriedOne {
         int lesser = x < y ? x : y;
         int greater = x < y ? y : x;
         return 1 << lesser * (2 * MOST_BOOKS - 1 - lesser) / 2 + greater - lesser - 1;
-    }
-
-    private static int touchesAmong(int size) {
-        int bits = 0;
-        for (int x = 0; x < size; x++) {
-            for (int y = x + 1; y < size; y++) {
-                bits |= touchBit(x, y);
-            }
-        }
-        return bits;
     }
 
     private static int twoOf(int bit) {
@@ -870,7 +851,7 @@ public final class CarriedOne {
         }
 
         private void stepOverAll(int least, int most) {
-            while (place < length && within(bytes[place], least, most)) {
+            while (place < length && bytes[place] >= least && bytes[place] <= most) {
                 place++;
             }
         }

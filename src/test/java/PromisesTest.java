@@ -189,6 +189,16 @@ public final class PromisesTest {
         due("4: back(0) anew", x.back(0), STATE);
         due("4: undo anew", x.undo(), STATE);
         due("4: trace anew", x.trace(), 1);
+        due("4: now(2) anew", x.now(2), 125);
+        due("4: now(3) anew", x.now(3), 125);
+        due("4: why(0) anew", x.why(0), 2);
+        due("4: fits anew", x.fits(), 1);
+        CarriedOne y = Check.typed("b1 2");
+        due("4: books, too early", y.books(), -14);
+        y.type(';');
+        due("4: books, typed on", y.books(), 1);
+        due("4: books, no text", y.books(), 0);
+        due("4: count(0), no text", y.count(0), 0);
     }
 
     // book
@@ -216,6 +226,13 @@ public final class PromisesTest {
         for (int b = 0; b < 5; b++) due("5: carries of " + b, y.book(b, 4), carries[b]);
         y.forgets(0, 0);
         due("5: carry of tens stays", y.book(0, 4), 3);
+        // Only the figure of the tens counts, not what is ahead of it.
+        CarriedOne z = Check.told("b919 80;b80 919;b109 100;b100 109;b199 1;b1 199;");
+        int[] figures = {0, 0, 0, 0, 3, 3};
+        for (int b = 0; b < 6; b++) due("5: carries by figures of " + b, z.book(b, 4), figures[b]);
+        CarriedOne six = Check.told("b0 0;b0 0;b0 0;b0 0;b0 0;b0 0;t1 2;t5 0;t3 4;t2 3;t1 3;");
+        int[] touching = {32, 12, 10, 22, 8, 1};
+        for (int b = 0; b < 6; b++) due("5: six, touching " + b, six.book(b, 6), touching[b]);
     }
 
     // forgets
@@ -256,6 +273,15 @@ public final class PromisesTest {
         due("7: rights(1), again", x.rights(1), STATE);
         due("7: count(3)", x.count(3), 5);
         due("7: forgets after rights", x.forgets(0, 1), 0);
+        CarriedOne six = Check.told("b55 45;b55 45;b55 45;b55 45;b55 45;b55 45;");
+        for (int b = 0; b < 6; b++) {
+            six.forgets(b, b % 2);
+            six.forgets(b, 1 - b % 2);
+        }
+        for (int b = 5; b >= 0; b--) {
+            due("7: rights, of six", six.rights(b), 2);
+            for (int o = 0; o < 6; o++) due("7: others of six", six.book(o, 5), o < b ? 3 : 0);
+        }
     }
 
     // puts
@@ -303,6 +329,7 @@ public final class PromisesTest {
         for (int bad : new int[] {-1, 3, 32, LEAST, MOST}) {
             due("10: traps(" + bad + ", 1)", x.traps(bad, 1), BAD);
             due("10: traps(0, " + bad + ")", x.traps(0, bad), BAD);
+            due("10: traps(0, 2)", x.traps(0, 2), BAD);
         }
         due("10: traps(0, 0)", x.traps(0, 0), 1);
         due("10: book(0, 7)", x.book(0, 7), 0);
@@ -383,7 +410,10 @@ public final class PromisesTest {
         due("12: undo, no more", x.undo(), STATE);
         for (int i = 0; i < 12; i++) x.day();
         due("12: ten are known", x.count(3), 10);
-        for (int i = 9; i >= 0; i--) due("12: undo, " + i + " more", x.undo(), i);
+        for (int i = 9; i >= 0; i--) {
+            due("12: undo, " + i + " more", x.undo(), i);
+            due("12: now(0), undo, " + i, x.now(0), i + 2);
+        }
         due("12: older ones are lost", x.undo(), STATE);
         due("12: now(0), two are left", x.now(0), 2);
         CarriedOne y = Check.told("b1 1;");
@@ -394,6 +424,28 @@ public final class PromisesTest {
         due("12: nowhere again", y.now(1), NONE);
         due("12: what was seen stays", y.count(2), 1);
         due("12: the trace stays", y.trace(), 1);
+        // What came back by an undo may be changed and come back again.
+        CarriedOne z = Check.told("b55 45;b55 45;b55 45;b55 45;b55 45;b55 45;t0 1;t4 5;t0 5;o5;");
+        z.forgets(5, 1);
+        z.traps(5, 1);
+        z.day();
+        z.undo();
+        z.lays(0, 1, 0);
+        z.lays(5, 4, 0);
+        z.traps(5, 0);
+        z.rights(5);
+        z.puts(0);
+        z.day();
+        due("12: undo, again", z.undo(), 7);
+        due("12: now(1), again", z.now(1), 0);
+        due("12: now(6), again", z.now(6), 1);
+        due("12: count(1), again", z.count(1), 0);
+        due("12: book(5, 5), again", z.book(5, 5), 0);
+        z.undo();
+        z.undo();
+        due("12: now(1), before", z.now(1), 5);
+        due("12: book(5, 5), before", z.book(5, 5), 2);
+        due("12: book(5, 7), before", z.book(5, 7), 0);
     }
 
     // now
@@ -517,6 +569,30 @@ public final class PromisesTest {
         due("17: y.lure(1, 2, 0)", y.lure(1, 2, 0), 1);
         due("17: y.lure(1, 2, 1)", y.lure(1, 2, 1), 14);
         due("17: y.lure(0, 1, 0)", y.lure(0, 1, 0), NONE);
+        lureOfSix();
+    }
+
+    // Of ways by two touches the first, by their order; only the last one, where traps leave it.
+    private static void lureOfSix() {
+        CarriedOne x = Check.told("b0 0;b0 0;b0 0;b0 0;b10 0;b0 0;o5;");
+        lured("5 to 0 in 2", x, 0, 2, 2, 1, 15);
+        lured("5 to 0 in 1", x, 0, 1, 1, 5, NONE);
+        lured("5 to 5 in 2", x, 5, 2, 0, NONE, NONE);
+        x.puts(3);
+        lured("3 to 4 in 1", x, 4, 1, 1, 34, NONE);
+        lured("3 to 4 in 2", x, 4, 2, 2, 3, 4);
+        for (int b = 0; b < 3; b++) x.traps(b, 1);
+        lured("3 to 4 in 2, traps", x, 4, 2, 2, 35, 45);
+        x.lays(3, 5, 1);
+        lured("3 to 4 in 2, traps, one is there", x, 4, 2, 1, 45, NONE);
+        x.traps(5, 1);
+        lured("3 to 4 in 2, no way", x, 4, 2, NONE, NONE, NONE);
+    }
+
+    private static void lured(String what, CarriedOne x, int b, int n, int many, int first, int second) {
+        due("17: how many, " + what, x.lure(b, n, 0), many);
+        due("17: the first, " + what, x.lure(b, n, 1), first);
+        due("17: the second, " + what, x.lure(b, n, 2), second);
     }
 
     // cut
